@@ -97,6 +97,11 @@ public final class BanksTest {
         // Bank 0 is barred ahead by the third one, the way round by the second one on the other bank.
         home("f00t206r400b400", 0, CanalRings.NONE);
         home("f00t206b000t400", 0, CanalRings.NONE);
+        // Things with an even number are on bank 0, the others on bank 1.
+        for (int i = 0; i < 6; i++) home("f00t000t000t000t000t000t000", i, i % 2 == 0 ? 0 : CanalRings.NONE);
+        for (int i = 0; i < 6; i++) home("f00t706t706t706t706t706t706", i, i % 2 == 0 ? 1 : 7 + 1 + 6);
+        home("f00t000t000t000t701t700t700", 3, CanalRings.NONE);
+        home("f00t304t304t304t706t304t304", 3, 2);
         // Another one at one's own place counts for nothing.
         home("f00t303t000t300", 0, 0);
         home("f00t305t000t300", 0, 2);
@@ -125,6 +130,11 @@ public final class BanksTest {
         stops("f00t305t000t500", 0, 4);
         stops("f00t305t000t500t400t500", 0, 0);
         stops("f00t305t400t300", 0, 0);
+        stops("f00t500t005", 1, 1);
+        // The fourth one stands at the second one's own place; each way round is barred by one alone.
+        stops("f00t500t002t004t000", 1, 5);
+        // Bank 0 is barred twice, the other way round once.
+        stops("f00t500t006t000t600", 1, 8);
         CanalRings x = Trial.canal("f00t205t000t400t100");
         x.take(3);
         Trial.due("one is taken", x.stops(0), 6);

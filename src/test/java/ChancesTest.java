@@ -77,6 +77,9 @@ public final class ChancesTest {
         Trial.due("moved once more", x.cell(5), 2);
         Trial.due("its deeds can be undone", x.undo(1), 2);
         Trial.due("as behind the first", x.cell(4), 2);
+        CanalRings one = Trial.canal("f53 t300");
+        Trial.due("one thing alone", one.lots(1, 1), 3);
+        Trial.due("moved on", one.cell(4), 1);
         Trial.due("the greatest seed", x.lots(20, 2147483646) >= 0 ? 1 : 0, 1);
         Trial.due("21 deeds", x.count(2), 21);
     }

@@ -7,6 +7,7 @@ public final class DeedsTest {
         takes();
         fullLast();
         undo();
+        undoEach();
         keepAndOn();
         withoutThings();
         Trial.end("DeedsTest");
@@ -131,6 +132,24 @@ public final class DeedsTest {
         Trial.due("behind undo(1)", x.digest(), digests[1]);
         Trial.due("undo(0)", x.undo(0), 1);
         Trial.due("behind undo(0)", x.digest(), digests[0]);
+    }
+
+    /** Deeds of each thing are done again as they were. */
+    private static void undoEach() {
+        CanalRings x = Trial.canal("f00 t300 r300 s300 b300 d300 c300");
+        for (int i = 0; i < 6; i++) x.move(i, i % 2 == 0 ? 1 : -1);
+        for (int i = 3; i < 6; i++) x.take(i);
+        long before = x.digest();
+        x.paddle(1);
+        Trial.due("undo(9)", x.undo(9), 1);
+        Trial.due("all as before", x.digest(), before);
+        Trial.due("undo(5)", x.undo(5), 4);
+        cells("five moves are left", x, 4, 2, 4, 2, 4, 3);
+        x.undo(0);
+        for (int i = 0; i < 6; i++) x.take(i);
+        x.year();
+        Trial.due("undo(6)", x.undo(6), 1);
+        Trial.due("all taken again", x.count(5), 63);
     }
 
     private static void keepAndOn() {

@@ -61,6 +61,8 @@ public final class ThingsTest {
         Trial.due("lacks 1", x.mark(1, 1), 1);
         Trial.due("lacks 7", x.mark(2, 1), 7);
         Trial.due("doll as a ring", x.mark(3, 1), 2);
+        CanalRings swift = Trial.canal("f90 r000");
+        Trial.due("flow enough and to spare", swift.mark(0, 1), 0);
         x.take(2);
         Trial.due("taken ring", x.mark(2, 1), 7);
     }

@@ -55,6 +55,10 @@ public final class WhereItLiesTest {
         Trial.due("in cell 5", taken.asked(), 5);
         taken.take(1);
         Trial.due("two are left", taken.three(), CanalRings.NONE);
+        taken.take(2);
+        taken.take(3);
+        Trial.due("none are left", taken.three(), CanalRings.NONE);
+        Trial.due("two by cell 0", Trial.canal("f00 t000 t000").three(), CanalRings.NONE);
     }
 
     private static void moves() {
