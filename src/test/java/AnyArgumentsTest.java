@@ -19,7 +19,7 @@ public final class AnyArgumentsTest {
     public static void main(String[] args) throws ReflectiveOperationException {
         face();
         Random random = new Random(7);
-        for (int run = 0; run < 400; run++) run(random, run % 2 == 0 ? new CanalRings() : Trial.canal(Trial.SIX));
+        for (int run = 0; run < 4000; run++) run(random, run % 2 == 0 ? new CanalRings() : Trial.canal(Trial.SIX));
         Trial.end("AnyArgumentsTest");
     }
 
@@ -43,7 +43,8 @@ public final class AnyArgumentsTest {
         Method[] calls = Arrays.stream(CanalRings.class.getMethods())
             .filter(m -> m.getDeclaringClass() == CanalRings.class)
             .sorted((a, b) -> a.getName().compareTo(b.getName())).toArray(Method[]::new);
-        for (int k = 0; k < 512; k++) {
+        // Each call is looked at by eight more, and a canal takes up to 30 to be made: 512 calls are promised.
+        for (int k = 0; k < 53; k++) {
             Method call = calls[random.nextInt(calls.length)];
             Object[] numbers = new Object[call.getParameterCount()];
             for (int i = 0; i < numbers.length; i++) {

@@ -1,6 +1,6 @@
 import java.util.Random;
 
-/** Runs of 512 calls by lots of a fixed seed: the class and the model answer alike, all that is told included. */
+/** Runs of up to 512 calls by lots of a fixed seed: the class and the model answer alike, all that is told included. */
 public final class ModelTest {
     private static final String[] CALLS = {"row", "lay", "at", "tear", "copy", "mean", "text", "put", "fault", "canal",
         "thing", "mark", "cell", "year", "paddle", "move", "take", "undo", "keep", "on", "lies", "three", "moves",
@@ -12,19 +12,23 @@ public final class ModelTest {
     private final CanalRings x = new CanalRings();
     private final Model y = new Model();
     private final StringBuilder story = new StringBuilder();
+    /** Calls of the class so far, those that look at it included. */
+    private int used = 0;
+    private int compared = 0;
 
     private ModelTest(long seed) {
         random = new Random(seed);
     }
 
     public static void main(String[] args) {
-        int runs = args.length > 0 ? Integer.parseInt(args[0]) : 3000;
+        int runs = args.length > 0 ? Integer.parseInt(args[0]) : 8000;
         for (int seed = 0; seed < runs; seed++) new ModelTest(seed).run(seed);
         Trial.end("ModelTest");
     }
 
     private void run(int seed) {
-        for (int call = 0; call < 512; call++) {
+        // Room for a canal, pairs and one more call, each looked at.
+        for (int call = 0; used < 512 - 130; call++) {
             if (random.nextInt(60) == 0 || call == 3) writeCanal();
             if (random.nextInt(12) == 0) writePairs();
             if (!same(CALLS[random.nextInt(CALLS.length)])) {
@@ -58,6 +62,7 @@ public final class ModelTest {
         x.text(t, s.length());
         y.text(t, s.length());
         for (int i = 0; i < s.length(); i++) Trial.due("put", x.put(t, i, s.charAt(i)), y.put(t, i, s.charAt(i)));
+        used += 1 + s.length();
         story.append(" text ").append(t).append(" '").append(s).append("'");
         same("fault", t, 0, 0, 0, 0);
         if (random.nextInt(4) != 0) same("canal", t, 0, 0, 0, 0);
@@ -74,6 +79,7 @@ public final class ModelTest {
         int pairs = random.nextInt(8);
         x.row(r, 2 * pairs);
         y.row(r, 2 * pairs);
+        used++;
         int i = random.nextInt(6);
         for (int k = 0; k < pairs; k++) {
             int years = random.nextInt(random.nextBoolean() ? 4 : 21);
@@ -120,11 +126,19 @@ public final class ModelTest {
             .append(d).append(',').append(e).append(')');
         long got = answer(call, a, b, c, d, e);
         long want = modelAnswer(call, a, b, c, d, e);
-        boolean alike = got == want && x.asked() == y.asked() && x.upper() == y.upper() && x.lower() == y.lower()
-            && x.finding() == y.finding() && x.findings(y.finding()) == y.findings(y.finding())
-            && x.digest() == y.digest();
+        used += 3;
+        boolean alike = got == want && x.asked() == y.asked() && x.digest() == y.digest() && sameTold();
         Trial.due(call, alike ? got : got + 1, got);
         return alike;
+    }
+
+    /** What stays until another call tells it is looked at now and then alone, so that a run has more calls. */
+    private boolean sameTold() {
+        compared++;
+        if (compared % 4 != 0) return true;
+        used += 4;
+        int f = y.finding();
+        return x.upper() == y.upper() && x.lower() == y.lower() && x.finding() == f && x.findings(f) == y.findings(f);
     }
 
     private long answer(String call, int a, int b, int c, int d, int e) {

@@ -70,30 +70,27 @@ public final class PairsNightTest {
     }
 
     private static void refusals() {
+        pairRefusal("missing row", Trial.canal("f00 t300 t300"), 0, 1, 0, Trial.NOTHING);
+        pairRefusal("half a pair", laid(3), 0, 1, 0, Trial.SIZE);
+        pairRefusal("SIZE ahead of UNLIKE", laid(99, 99, 99), 0, 1, 0, Trial.SIZE);
+        pairRefusal("13", laid(new int[13]), 0, 1, 0, Trial.SIZE);
+        pairRefusal("seven pairs", laid(new int[14]), 0, 1, 0, Trial.SIZE);
+        pairRefusal("21 years", laid(21, 0), 0, 1, 0, Trial.UNLIKE);
+        pairRefusal("-1 years", laid(-1, 0), 0, 1, 0, Trial.UNLIKE);
+        pairRefusal("cell 8", laid(0, 8), 0, 1, 0, Trial.UNLIKE);
+        CanalRings last = laid(0, 0, 0, 0, 0, 0, 0, 0, 0, 0, 20, -1);
+        pairRefusal("cell -1, last", last, 0, 1, 0, Trial.UNLIKE);
+        pairRefusal("thing 2", last, 2, 1, CanalRings.BAD, 0);
+        pairRefusal("thing -1", last, -1, 1, CanalRings.BAD, 0);
+        pairRefusal("row 6", last, 0, 6, CanalRings.BAD, 0);
+        pairRefusal("row -1", last, 0, -1, CanalRings.BAD, 0);
+        pairRefusal("no things", new CanalRings(), 0, 0, CanalRings.BAD, 0);
+    }
+
+    private static CanalRings laid(int... numbers) {
         CanalRings x = Trial.canal("f00 t300 t300");
-        pairRefusal("missing row", x, 0, 1, 0, Trial.NOTHING);
-        Trial.layAll(x, 1, 3);
-        pairRefusal("half a pair", x, 0, 1, 0, Trial.SIZE);
-        Trial.layAll(x, 1, 99, 99, 99);
-        pairRefusal("SIZE ahead of UNLIKE", x, 0, 1, 0, Trial.SIZE);
-        x.row(1, 13);
-        pairRefusal("13", x, 0, 1, 0, Trial.SIZE);
-        x.row(1, 14);
-        pairRefusal("seven pairs", x, 0, 1, 0, Trial.SIZE);
-        Trial.layAll(x, 1, 21, 0);
-        pairRefusal("21 years", x, 0, 1, 0, Trial.UNLIKE);
-        Trial.layAll(x, 1, -1, 0);
-        pairRefusal("-1 years", x, 0, 1, 0, Trial.UNLIKE);
-        Trial.layAll(x, 1, 0, 8);
-        pairRefusal("cell 8", x, 0, 1, 0, Trial.UNLIKE);
-        Trial.layAll(x, 1, 0, 0, 0, 0, 0, 0, 0, 0, 0, 0, 20, -1);
-        pairRefusal("cell -1, last", x, 0, 1, 0, Trial.UNLIKE);
-        pairRefusal("thing 2", x, 2, 1, CanalRings.BAD, 0);
-        pairRefusal("thing -1", x, -1, 1, CanalRings.BAD, 0);
-        pairRefusal("row 6", x, 0, 6, CanalRings.BAD, 0);
-        pairRefusal("row -1", x, 0, -1, CanalRings.BAD, 0);
-        CanalRings none = new CanalRings();
-        pairRefusal("no things", none, 0, 0, CanalRings.BAD, 0);
+        Trial.layAll(x, 1, numbers);
+        return x;
     }
 
     private static void pairRefusal(String why, CanalRings x, int i, int r, int want, int finding) {

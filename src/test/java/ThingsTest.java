@@ -101,12 +101,12 @@ public final class ThingsTest {
     }
 
     private static void markRefusals() {
-        CanalRings x = Trial.canal("f00 t000 r000 s000 b000 d000 c000");
         boolean[][] is = new boolean[6][6];
         for (int kind = 0; kind < 6; kind++) is[kind][kind] = true;
         is[4][1] = true;
         is[5][2] = true;
         for (int i = 0; i < 6; i++) {
+            CanalRings x = Trial.canal("f00 t000 r000 s000 b000 d000 c000");
             for (int k = 1; k < 6; k++) {
                 int thing = i;
                 int kind = k;
@@ -114,6 +114,7 @@ public final class ThingsTest {
                 else Trial.finds("mark(" + i + ", " + k + ")", x, () -> x.mark(thing, kind), Trial.UNLIKE);
             }
         }
+        CanalRings x = Trial.canal("f00 t000 r000 s000 b000 d000 c000");
         Trial.refused("mark(0, 0)", x, () -> x.mark(0, 0), CanalRings.BAD);
         Trial.refused("mark(0, -1)", x, () -> x.mark(0, -1), CanalRings.BAD);
         Trial.refused("mark(0, 6)", x, () -> x.mark(0, 6), CanalRings.BAD);
