@@ -1,6 +1,6 @@
 import java.util.function.Supplier;
 
-/** Boundary cases of promises 1 to 9: a new object, rows, texts. Each method holds one sentence of the document. */
+/** Boundary cases of promises 1 to 9: a new object, rows, texts. A method for each sentence. */
 public final class EdgeRowsTextsTest {
     private static final Supplier<CanalRings> BARE = CanalRings::new;
     private static final Supplier<CanalRings> RICH = Edge::rich;
