@@ -690,7 +690,7 @@ public final class CanalRings {
 
         private void passYear() {
             for (int i = 0; i < things; i++) {
-                if (!isTaken(i)) cells[i] = cellAfter(i, cells[i], 1);
+                if (!isTaken(i)) cells[i] = step(kinds[i], weights[i], cells[i], year);
             }
             year++;
         }
@@ -770,7 +770,7 @@ public final class CanalRings {
          * Over all ways in which left years can be still (p of 12) or not: their sum, each counted by its share,
          * of those that end in the target, or, without a target, of the cells in which they end.
          */
-        long weighWays(int i, int from, int left, int p, int target, int inYear) {
+        private long weighWays(int i, int from, int left, int p, int target, int inYear) {
             if (left <= 0) {
                 if (target == NONE) return from;
                 return from == target ? 1L : 0L;

@@ -1,3 +1,4 @@
+import java.lang.reflect.Field;
 import java.lang.reflect.InvocationTargetException;
 import java.lang.reflect.Method;
 import java.lang.reflect.Modifier;
@@ -37,6 +38,16 @@ public final class AnyArgumentsTest {
         Trial.due("public final", CanalRings.class.getModifiers(), Modifier.PUBLIC | Modifier.FINAL);
         Trial.due("constructors", CanalRings.class.getConstructors().length, 1);
         Trial.due("public fields", CanalRings.class.getFields().length, 6);
+        for (Field f : CanalRings.class.getDeclaredFields()) {
+            int constant = Modifier.PUBLIC | Modifier.STATIC | Modifier.FINAL;
+            boolean hidden = Modifier.isPrivate(f.getModifiers());
+            Trial.due(f.getName() + " is private or of the face", hidden || f.getModifiers() == constant ? 1 : 0, 1);
+        }
+        for (Class<?> inside : CanalRings.class.getDeclaredClasses()) {
+            boolean open = Modifier.isPublic(inside.getModifiers()) || Modifier.isProtected(inside.getModifiers());
+            Trial.due(inside + " is static", Modifier.isStatic(inside.getModifiers()) ? 1 : 0, 1);
+            Trial.due(inside + " is not of the face", open ? 1 : 0, 0);
+        }
     }
 
     private static void run(Random random, CanalRings x) throws ReflectiveOperationException {

@@ -3,7 +3,9 @@ import java.nio.file.Files;
 import java.nio.file.Path;
 import java.util.ArrayList;
 import java.util.List;
+import java.util.Map;
 import java.util.Set;
+import java.util.TreeMap;
 import java.util.TreeSet;
 import java.util.regex.Matcher;
 import java.util.regex.Pattern;
@@ -30,6 +32,7 @@ public final class SourceRulesTest {
         imports(code);
         methods(code);
         statics(code);
+        callsAndRecursion(code);
         Matcher classes = Pattern.compile("\\b(class|record|enum|interface) \\w+").matcher(code);
         int many = 0;
         while (classes.find()) many++;
@@ -66,5 +69,48 @@ public final class SourceRulesTest {
         while (found.find()) {
             Trial.due("final:" + found.group(), found.group().contains(" final ") ? 1 : 0, 1);
         }
+    }
+
+    /** Rules 8 and 11: who calls itself is private; calls that are no recursion go at most eight deep. */
+    private static void callsAndRecursion(String code) {
+        Map<String, String> bodies = new TreeMap<>();
+        Set<String> face = new TreeSet<>();
+        Matcher found = METHOD.matcher(code);
+        while (found.find()) {
+            String name = found.group(4);
+            if (name.equals("if") || name.equals("for")) continue;
+            int end = code.indexOf("\n" + found.group(1) + "}", found.end());
+            String body = code.substring(found.end(), end);
+            // The calls are told apart by their names alone, so no two methods may share one.
+            Trial.due(name + " is one method's name alone", bodies.put(name, body) == null ? 1 : 0, 1);
+            if (found.group(2).contains("public ")) face.add(name);
+            if (calls(body, name)) {
+                Trial.due(name + " calls itself: private", found.group(2).contains("private ") ? 1 : 0, 1);
+            }
+        }
+        for (String name : face) {
+            String way = deepest(name, bodies, List.of());
+            int deep = way.split(" ").length;
+            Trial.due("at most eight deep: " + way, deep <= 8 ? 1 : 0, 1);
+        }
+    }
+
+    private static boolean calls(String body, String name) {
+        return Pattern.compile("\\b" + name + "\\(").matcher(body).find();
+    }
+
+    /** The longest row of calls from a method on, it and a call of the library included. */
+    private static String deepest(String name, Map<String, String> bodies, List<String> open) {
+        List<String> now = new ArrayList<>(open);
+        now.add(name);
+        String body = bodies.get(name);
+        String longest = "";
+        if (Pattern.compile("\\b(Math|Integer|Arrays|System)\\.\\w+\\(").matcher(body).find()) longest = " library";
+        for (String next : bodies.keySet()) {
+            if (now.contains(next) || !calls(body, next)) continue;
+            String way = " " + deepest(next, bodies, now);
+            if (way.split(" ").length > longest.split(" ").length) longest = way;
+        }
+        return name + longest;
     }
 }
